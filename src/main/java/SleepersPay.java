@@ -62,10 +62,10 @@ public final class SleepersPay {
 
     public int street() {
         int fault = streetReader.readInto(draft);
+        tape.length = 0;
         if (fault != 0) {
             return -2 - fault;
         }
-        tape.length = 0;
         now.street.copyOf(draft);
         now.moment.clear();
         now.facts.clear();
@@ -78,10 +78,10 @@ public final class SleepersPay {
             return NONE;
         }
         int fault = ruleReader.readText();
+        tape.length = 0;
         if (fault != 0) {
             return -2 - fault;
         }
-        tape.length = 0;
         rules[ruleCount] = ruleReader.made();
         ruleCount++;
         return ruleCount - 1;
@@ -237,12 +237,12 @@ public final class SleepersPay {
     }
 
     public int fact(int what, int one, int much, int cost) {
-        if (!now.street.isTold()) {
-            return ABSENT;
-        }
         if (what == NONE) {
             now.facts.clear();
             return 0;
+        }
+        if (!now.street.isTold()) {
+            return ABSENT;
         }
         if (!isFact(what, one, much, cost) || !now.facts.add(what, one, much, cost)) {
             return ABSENT;

@@ -493,12 +493,13 @@ final class Oracle {
     }
 
     int street() {
+        byte[] told = tape;
+        tape = new byte[0];
         try {
-            town = new Reader(tape).town();
+            town = new Reader(told).town();
         } catch (Fault f) {
             return -2 - f.number;
         }
-        tape = new byte[0];
         state = new State(town.people.size());
         facts = new ArrayList<>();
         acts.clear();
@@ -509,12 +510,13 @@ final class Oracle {
         if (rules.size() == 6) {
             return -1;
         }
+        byte[] told = tape;
+        tape = new byte[0];
         try {
-            rules.add(new Reader(tape).rule());
+            rules.add(new Reader(told).rule());
         } catch (Fault f) {
             return -2 - f.number;
         }
-        tape = new byte[0];
         return rules.size() - 1;
     }
 
@@ -735,12 +737,12 @@ final class Oracle {
     }
 
     int fact(int what, int one, int much, int cost) {
-        if (town == null) {
-            return -2;
-        }
         if (what == -1) {
             facts.clear();
             return 0;
+        }
+        if (town == null) {
+            return -2;
         }
         boolean ok = switch (what) {
             case 0, 1 -> isPerson(one);

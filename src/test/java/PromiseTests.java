@@ -161,7 +161,8 @@ public final class PromiseTests {
         due("count(1)", x.count(1), 3);
         due("count(7)", x.count(7), 1);
         due("count(13)", x.count(13), 1);
-        due("count(15)", x.count(15), 19);
+        due("count(15)", x.count(15), 0);
+        due("behind a fault the TAPE begins anew", x.feed(0, 0, 0, 0, 0), 20);
         due("no people", Telling.street(x, NOBODY), 0);
         due("count(4)", x.count(4), 1);
         x.hour();
@@ -170,6 +171,7 @@ public final class PromiseTests {
 
     private static void badStreet(String text, int place, int kind) {
         due("'" + text + "'", Telling.street(x, text), Telling.fault(place, kind));
+        due("count(15)", x.count(15), 0);
     }
 
     private static void streetFaults() {
@@ -229,16 +231,19 @@ public final class PromiseTests {
         due("seventh rule", Telling.rule(x, "sleep 6"), NONE);
         due("count(15)", x.count(15), 7);
         due("count(5)", x.count(5), 6);
+        due("a fault where there are six", Telling.rule(x, "sleep"), NONE);
+        due("count(15)", x.count(15), 5);
     }
 
     private static void badRule(String text, int place, int kind) {
         due("'" + text + "'", Telling.rule(x, text), Telling.fault(place, kind));
-        due("count(15)", x.count(15), text.length());
+        due("count(15)", x.count(15), 0);
     }
 
     private static void ruleFaults() {
         fresh(5);
         badRule("", 0, 0);
+        due("behind a fault the TAPE begins anew", x.feed(0, 0, 0, 0, 0), 20);
         badRule("sleep", 5, 0);
         badRule("sleep 1 if", 10, 0);
         badRule("sleeps 1", 0, 0);
@@ -724,6 +729,8 @@ public final class PromiseTests {
     private static void facts() {
         fresh(19);
         due("fact(2, 1, 0, 0)", x.fact(2, 1, 0, 0), -2);
+        due("fact(NONE, ..) without a STREET", x.fact(NONE, 0, 0, 0), 0);
+        due("fact(-2, ..) without a STREET", x.fact(-2, 0, 0, 0), -2);
         fresh(19, A);
         due("fact(0, 2, -5, 999)", x.fact(0, 2, -5, 999), 1);
         due("fact(1, 3, 0, 0)", x.fact(1, 3, 0, 0), -2);

@@ -128,7 +128,7 @@ public final class SleepersPay {
             return NONE;
         }
         acts.keep(now.moment);
-        return player.play(now.street, now.moment, ruleNow(), false);
+        return player.play(now.street, now.moment, ruleNow());
     }
 
     public boolean sleep(int person, boolean is) {
@@ -177,7 +177,7 @@ public final class SleepersPay {
             return NONE;
         }
         trial.copyOf(now.moment);
-        playTrial(n, false);
+        playTrial(n);
         if (what == 0) {
             return bitOf(trial.asleep, person);
         }
@@ -311,11 +311,13 @@ public final class SleepersPay {
             return NO_FRACTION;
         }
         trial.copyOf(now.moment);
-        playTrial(n, true);
-        long turned = trial.owed[person];
-        trial.copyOf(now.moment);
-        playTrial(n, false);
-        return fraction(turned - trial.owed[person], SIXTIETHS, part);
+        long would = 0;
+        for (int i = 0; i < n; i++) {
+            player.play(now.street, trial, ruleNow());
+            would += player.shareIfWakingPaid(now.street, person);
+        }
+        long does = trial.owed[person] - now.moment.owed[person];
+        return fraction(would - does, SIXTIETHS, part);
     }
 
     public int spite(int lamp, int person, int n, int part) {
@@ -325,11 +327,11 @@ public final class SleepersPay {
         int row = debtorRow(person);
         trial.copyOf(now.moment);
         trial.setLamp(lamp, true);
-        playTrial(n, false);
+        playTrial(n);
         long lit = trial.owed[row];
         trial.copyOf(now.moment);
         trial.setLamp(lamp, false);
-        playTrial(n, false);
+        playTrial(n);
         return fraction(lit - trial.owed[row], SIXTIETHS, part);
     }
 
@@ -356,7 +358,7 @@ public final class SleepersPay {
             trial.copyOf(now.moment);
             for (int i = 0; i < n; i++) {
                 x = player.draw(now.street, trial, x, p);
-                hours += player.play(now.street, trial, null, false);
+                hours += player.play(now.street, trial, null);
             }
             town += trial.owed[TOWN] - now.moment.owed[TOWN];
         }
@@ -436,9 +438,9 @@ public final class SleepersPay {
         return rule >= 0 && rule < ruleCount ? rules[rule] : null;
     }
 
-    private void playTrial(int n, boolean turned) {
+    private void playTrial(int n) {
         for (int i = 0; i < n; i++) {
-            player.play(now.street, trial, ruleNow(), turned);
+            player.play(now.street, trial, ruleNow());
         }
     }
 
@@ -1498,9 +1500,12 @@ public final class SleepersPay {
 
         private final long[] waiting = new long[MOST_WAITING];
         private int size = 0;
+        /** Of the HOUR played last, as a Moment forgets who slept when its NIGHT is over. */
+        private int sleepers = 0;
+        private long cost = 0;
 
-        /** One HOUR: how many slept in it. Turned, those who wake pay. */
-        int play(Street street, Moment moment, Rule rule, boolean turned) {
+        /** One HOUR: how many slept in it. */
+        int play(Street street, Moment moment, Rule rule) {
             int workers = street.workersAt(moment.hour);
             moment.asleep &= ~workers;
             for (int person = 0; person < street.people && rule != null; person++) {
@@ -1508,8 +1513,9 @@ public final class SleepersPay {
                     setAsleep(moment, person, answer(street, moment, rule, person) > 0);
                 }
             }
-            share(street, moment, turned);
-            int sleepers = moment.asleep;
+            sleepers = moment.asleep;
+            cost = (long) SIXTIETHS * street.costOf(moment.burningAt(street, moment.hour));
+            share(street, moment);
             for (int person = 0; person < street.people; person++) {
                 moment.hoursSlept[person] += bitOf(sleepers, person);
             }
@@ -1535,20 +1541,27 @@ public final class SleepersPay {
             moment.asleep = is ? moment.asleep | bit : moment.asleep & ~bit;
         }
 
-        private static void share(Street street, Moment moment, boolean turned) {
-            int payers = turned ? street.everyone() & ~moment.asleep : moment.asleep;
-            int many = Integer.bitCount(payers);
-            int burning = moment.burningAt(street, moment.hour);
-            long cost = (long) SIXTIETHS * street.costOf(burning);
-            if (many == 0) {
+        private void share(Street street, Moment moment) {
+            if (sleepers == 0) {
                 moment.owed[TOWN] += cost;
                 return;
             }
             for (int person = 0; person < street.people; person++) {
-                if (bitOf(payers, person) == 1) {
-                    moment.owed[person] += cost / many;
-                }
+                moment.owed[person] += shareAmong(sleepers, person);
             }
+        }
+
+        /**
+         * What one would owe for the HOUR played last, in sixtieths. Only who pays is
+         * supposed: who slept, and what a RULE asked of what is owed, is as it is.
+         */
+        long shareIfWakingPaid(Street street, int person) {
+            return shareAmong(street.everyone() & ~sleepers, person);
+        }
+
+        private long shareAmong(int payers, int person) {
+            int many = Integer.bitCount(payers);
+            return many > 0 && bitOf(payers, person) == 1 ? cost / many : 0;
         }
 
         private long answer(Street street, Moment moment, Rule rule, int person) {

@@ -79,6 +79,8 @@ final class Oracle {
         int[] slept;
         int[] debt;
         Frac[] owed;
+        /** What each would owe, if those who wake had shared each COST. */
+        Frac[] ifWakingPaid;
         Map<Integer, Boolean> byAct = new HashMap<>();
 
         State(int people) {
@@ -87,6 +89,7 @@ final class Oracle {
             debt = new int[people];
             owed = new Frac[people + 1];
             Arrays.fill(owed, Frac.ZERO);
+            ifWakingPaid = owed.clone();
         }
 
         State copy() {
@@ -97,6 +100,7 @@ final class Oracle {
             s.slept = slept.clone();
             s.debt = debt.clone();
             s.owed = owed.clone();
+            s.ifWakingPaid = ifWakingPaid.clone();
             s.byAct = new HashMap<>(byAct);
             return s;
         }
@@ -415,7 +419,7 @@ final class Oracle {
         return sum;
     }
 
-    static int play(Town town, State s, List<Clause> rule, boolean turned) {
+    static int play(Town town, State s, List<Clause> rule) {
         int n = town.people.size();
         for (int p = 0; p < n; p++) {
             if (town.works(p, s.hour)) {
@@ -436,24 +440,15 @@ final class Oracle {
             }
             s.asleep[p] = answer > 0;
         }
-        List<Integer> payers = new ArrayList<>();
-        int slept = 0;
+        List<Integer> sleepers = new ArrayList<>();
+        List<Integer> wakers = new ArrayList<>();
         for (int p = 0; p < n; p++) {
-            if (s.asleep[p] != turned) {
-                payers.add(p);
-            }
-            if (s.asleep[p]) {
-                slept++;
-                s.slept[p]++;
-            }
+            s.slept[p] += s.asleep[p] ? 1 : 0;
+            (s.asleep[p] ? sleepers : wakers).add(p);
         }
         int cost = cost(town, s, s.hour, -1);
-        for (int p : payers) {
-            s.owed[p] = s.owed[p].plus(Frac.of(cost, payers.size()));
-        }
-        if (payers.isEmpty()) {
-            s.owed[n] = s.owed[n].plus(Frac.of(cost, 1));
-        }
+        share(s.owed, sleepers, cost);
+        share(s.ifWakingPaid, wakers, cost);
         s.hour++;
         if (s.hour == town.hours) {
             s.hour = 0;
@@ -465,7 +460,17 @@ final class Oracle {
                 s.asleep[p] = false;
             }
         }
-        return slept;
+        return sleepers.size();
+    }
+
+    /** The last of what is owed is the town's. */
+    private static void share(Frac[] owed, List<Integer> payers, int cost) {
+        for (int p : payers) {
+            owed[p] = owed[p].plus(Frac.of(cost, payers.size()));
+        }
+        if (payers.isEmpty()) {
+            owed[owed.length - 1] = owed[owed.length - 1].plus(Frac.of(cost, 1));
+        }
     }
 
     // ---- the face
@@ -580,7 +585,7 @@ final class Oracle {
             return -1;
         }
         act();
-        return play(town, state, inForce(), false);
+        return play(town, state, inForce());
     }
 
     boolean sleep(int p, boolean is) {
@@ -622,7 +627,7 @@ final class Oracle {
         }
         State s = state.copy();
         for (int i = 0; i < n; i++) {
-            play(town, s, inForce(), false);
+            play(town, s, inForce());
         }
         return what == 0 ? (s.asleep[p] ? 1 : 0) : what == 1 ? s.slept[p] : s.debt[p];
     }
@@ -861,18 +866,20 @@ final class Oracle {
         }
     }
 
-    private Frac after(State s, int n, int who, boolean turned) {
+    private State after(State s, int n) {
         for (int i = 0; i < n; i++) {
-            play(town, s, inForce(), turned);
+            play(town, s, inForce());
         }
-        return s.owed[who < 0 ? town.people.size() : who];
+        return s;
     }
 
     int turned(int p, int n, int part) {
         if (!isPerson(p) || n < 1 || n > 60 || part < 0 || part > 1) {
             return -1000000;
         }
-        return after(state.copy(), n, p, true).minus(after(state.copy(), n, p, false)).part(part);
+        State then = after(state.copy(), n);
+        Frac would = then.ifWakingPaid[p].minus(state.ifWakingPaid[p]);
+        return would.minus(then.owed[p].minus(state.owed[p])).part(part);
     }
 
     int spite(int l, int p, int n, int part) {
@@ -883,7 +890,8 @@ final class Oracle {
         lit.byAct.put(l, true);
         State out = state.copy();
         out.byAct.put(l, false);
-        return after(lit, n, p, false).minus(after(out, n, p, false)).part(part);
+        int who = p < 0 ? town.people.size() : p;
+        return after(lit, n).owed[who].minus(after(out, n).owed[who]).part(part);
     }
 
     int seed(int number) {
@@ -913,7 +921,7 @@ final class Oracle {
                     }
                 }
                 int cost = cost(town, s, s.hour, -1);
-                int many = play(town, s, null, false);
+                int many = play(town, s, null);
                 hours += many;
                 costs += many == 0 ? cost : 0;
             }

@@ -898,14 +898,27 @@ public final class PromiseTests {
         due("a third", x.turned(0, 1, 1), 3);
         fresh(23, "street 3;person 0 0;lamp 9 60;lit 0 0 2");
         inForce("sleep 1 - owed");
-        due("who owes nothing sleeps on", x.turned(0, 3, 0), -60);
+        due("HOURS as they are: asleep, awake, awake", x.turned(0, 3, 0), 60);
+        due("the same HOURS in the next NIGHT", x.turned(0, 6, 0), 240);
+        x.hour();
+        due("what was owed ahead of these is left out", x.turned(0, 1, 0), 60);
+        due("owed(0, 0)", x.owed(0, 0), 60);
         due("turned(0, 0, 0)", x.turned(0, 0, 0), -1000000);
         due("turned(0, 61, 0)", x.turned(0, 61, 0), -1000000);
         due("turned(0, 60, 2)", x.turned(0, 60, 2), -1000000);
         due("turned(0, 60, -1)", x.turned(0, 60, -1), -1000000);
         due("turned(1, 1, 0)", x.turned(1, 1, 0), -1000000);
         due("turned(NONE, 1, 0)", x.turned(NONE, 1, 0), -1000000);
-        due("count(7)", x.count(7), 0);
+        due("count(7)", x.count(7), 1);
+        fresh(23, "street 2;person 0 0;lamp 9 60;lit 0 0  1");
+        inForce("sleep 1 if owed <  1");
+        due("they owe as much for these", x.turned(0, 2, 0), 0);
+        due("they owe as much for these", x.turned(0, 2, 1), 1);
+        fresh(23, "street 2;person 0 0;person 0 0;work 1 0 1;lamp 9 10;lit 0 0 1");
+        inForce("sleep 1");
+        due("who works wakes, and would pay", x.turned(1, 2, 0), 20);
+        due("who sleeps till the NIGHT is over", x.turned(0, 2, 0), -20);
+        due("and through the next", x.turned(0, 4, 0), -40);
     }
 
     private static void spites() {

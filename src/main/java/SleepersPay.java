@@ -221,8 +221,7 @@ public final class SleepersPay {
         int best = burning;
         for (int out = 0; out < burning; out++) {
             boolean fewer = Integer.bitCount(out) < Integer.bitCount(best);
-            boolean before = Integer.bitCount(out) == Integer.bitCount(best) && out < best;
-            if ((out & ~burning) == 0 && (fewer || before) && allCouldSleep(burning & ~out)) {
+            if ((out & ~burning) == 0 && fewer && allCouldSleep(burning & ~out)) {
                 best = out;
             }
         }

@@ -188,6 +188,8 @@ public final class AskEdgeTests {
         says(TERMS, "how many; the least as bits; the greatest");
         SleepersPay x = Edge.street("street 2;person 0 0;person 0 0;lamp 9 1");
         due("all are as good", x.rest(0), 4);
+        due("of five", Edge.street("street 2" + ";person 0 0".repeat(5)).rest(0), 32);
+        due("of five", Edge.street("street 2" + ";person 0 0".repeat(5)).rest(2), 31);
         due("the least", x.rest(1), 0);
         due("the greatest", x.rest(2), 3);
         x.light(0, true);
@@ -232,6 +234,8 @@ public final class AskEdgeTests {
         due("who works is not asked",
             Edge.street("street 2;person 0 0;person 0 10;work 0 0 0;lamp 9 10;lit 0 0 0").dark(0), 0);
         due("all work", Edge.street("street 2;person 0 0;work 0 0 0;lamp 9 10;lit 0 0 0").dark(0), 0);
+        due("35 by five is 7", Edge.street("street 2" + ";person 0 7".repeat(5) + ";lamp 9 35;lit 0 0 0").dark(0), 0);
+        due("36 by five is more", Edge.street("street 2" + ";person 0 7".repeat(5) + ";lamp 9 36;lit 0 0 0").dark(0), 1);
         due("nobody lives there", Edge.street(NOBODY).dark(0), 0);
         due("nobody lives there", Edge.street(NOBODY).dark(1), 0);
     }
@@ -471,6 +475,15 @@ public final class AskEdgeTests {
         return x;
     }
 
+    static void sleptOrNot() {
+        says(TERMS, "what 0: a PERSON slept, 1: did not");
+        due("the first slept", told(0, 0, 0, 0).slept(2), 1);
+        due("the last slept", told(0, 2, 0, 0).slept(2), 4);
+        due("the first did not", told(1, 0, 0, 0).slept(3), 1);
+        due("the last did not", told(1, 2, 0, 0).slept(3), 4);
+        due("half of all", told(1, 2, 0, 0).slept(0), 4);
+    }
+
     static void sleptAtLeast() {
         says(TERMS, "2: at least so many slept");
         int[] sets = {8, 7, 4, 1, 0, 0};
@@ -596,6 +609,8 @@ public final class AskEdgeTests {
         due("eight", x.nights(0, 8, 0, NONE), 80);
         due("a bound of 79", x.nights(0, 8, 79, NONE), 1);
         due("a bound of 99", x.nights(0, 8, 99, NONE), 0);
+        due("no HOUR in the first", x.nights(0, 8, 99, 0), 0);
+        due("no HOUR in the last", x.nights(0, 8, 99, 7), 0);
         for (int n : new int[] {LEAST, -1, 0, 9, GREATEST}) {
             due("nights(0, " + n + ", 0, NONE)", x.nights(0, n, 0, NONE), -3);
         }
@@ -947,6 +962,8 @@ public final class AskEdgeTests {
         due("the town owes nothing", x.lives(2, 3, 100, 1), 0);
         due("nothing stays", x.owed(NONE, 0), 7);
         due("x", x.count(14), 0);
+        x.light(0, false);
+        due("by ACTS till the NIGHT is over", x.lives(1, 3, 0, 1), 14);
     }
 
     static void livesNoRule() {
@@ -1064,7 +1081,9 @@ public final class AskEdgeTests {
         SleepersPay x = Edge.busy();
         x.image(0);
         x.fact(NONE, 0, 0, 0);
-        x.fact(0, 0, 0, 0);
+        x.fact(0, 1, 300, 300);
+        x.fact(0, 1, 300, 300);
+        x.fact(0, 1, 300, 300);
         x.seed(1);
         x.force(NONE);
         x.light(0, false);

@@ -139,6 +139,8 @@ final class Edge {
         x.fact(5, 0, 12, 30);
         x.sleep(0, true);
         x.hour();
+        x.light(0, false);
+        x.light(0, true);
         x.image(2);
         x.fact(4, 2, 20, 30);
         x.light(1, false);
@@ -170,7 +172,11 @@ final class Edge {
         int acts = x.count(13);
         for (int i = 0; i < acts; i++) {
             all.add(x.undo());
-            seen(x, all);
+            all.add(x.count(7));
+            all.add(x.count(9));
+            all.add(x.count(10));
+            all.add(x.lives(1, 4, 0, 1));
+            all.add(x.owed(0, 0));
         }
         all.add(x.rule());
         for (int k = 0; k < 4; k++) {

@@ -177,6 +177,20 @@ public final class HourEdgeTests {
         due("who sleeps", x.count(9), 2);
     }
 
+    static void sleptInTheLastHour() {
+        says(TERMS, "who sleeps has slept an HOUR more. (4)");
+        SleepersPay x = Edge.street("street 2;person 1 0;person 1 0");
+        x.sleep(0, true);
+        x.hour();
+        due("slept", x.person(0, 3), 1);
+        due("who wakes", x.person(1, 3), 0);
+        x.sleep(0, false);
+        x.sleep(1, true);
+        x.hour();
+        due("the first HOUR counts", x.person(0, 4), 0);
+        due("the last HOUR counts", x.person(1, 4), 0);
+    }
+
     static void hourGoesRound() {
         says(TERMS, "HOUR is 1 more; behind the last it is 0, NIGHT 1 more");
         for (int hours = 2; hours <= 10; hours++) {
@@ -268,6 +282,15 @@ public final class HourEdgeTests {
     }
 
     // ---- Terms: ACTS
+
+    static void actHour() {
+        says(TERMS, "ACTS: an HOUR");
+        SleepersPay x = Edge.street("street 2");
+        Edge.hours(x, 2);
+        due("ACTS", x.count(13), 2);
+        due("undo()", x.undo(), 1);
+        due("HOUR", x.count(7), 1);
+    }
 
     static void actSleep() {
         says(TERMS, "SLEEP (a PERSON, awake, who does not work in this HOUR)");
@@ -524,6 +547,7 @@ public final class HourEdgeTests {
         x.light(0, true);
         due("undo() of LIGHT", x.undo(), 3);
         due("LAMPS", x.count(10), 0);
+        due("LAMPS to the end of the NIGHT", x.lives(1, 2, 0, 1), 0);
         x.sleep(0, true);
         x.sleep(0, false);
         due("undo() of WAKE", x.undo(), 4);
@@ -535,6 +559,21 @@ public final class HourEdgeTests {
         due("undo()", x.undo(), 4);
         due("DEBT", x.person(0, 4), 2);
         due("what they owe", x.owed(0, 0), 0);
+    }
+
+    static void undoOfLight() {
+        says(12, "The last ACT is UNDONE");
+        SleepersPay x = Edge.street("street 3;lamp 9 1;lit 0 1 1");
+        x.light(0, true);
+        due("LIT till the NIGHT is over", x.lives(1, 6, 0, 1), 4);
+        x.undo();
+        due("LAMPS", x.count(10), 0);
+        due("as told", x.lives(1, 6, 0, 1), 2);
+        x.light(0, true);
+        x.light(0, false);
+        due("OUT till the NIGHT is over", x.lives(1, 6, 0, 1), 1);
+        x.undo();
+        due("LIT again", x.lives(1, 6, 0, 1), 4);
     }
 
     static void undoIsNoActItself() {

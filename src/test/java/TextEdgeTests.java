@@ -67,10 +67,15 @@ public final class TextEdgeTests {
         due("force(NONE)", x.force(NONE), NONE);
     }
 
+    static void noneIsBelowNought() {
+        says(TERMS, "`NONE = -1`: None");
+        due("NONE", SleepersPay.NONE, -1);
+    }
+
     // ---- 2: feed
 
     static void feedComesBehind() {
-        says(2, "Twenty bytes come behind the TAPE");
+        says(2, "Twenty bytes come behind the TAPE, of each number the highest first: how many it has");
         SleepersPay x = new SleepersPay();
         due("feed", x.feed(0x736c6565, 0x70203120, BLANKS, BLANKS, BLANKS), 20);
         due("feed", x.feed(0x69662031, 0x3c322020, BLANKS, BLANKS, BLANKS), 40);
@@ -470,6 +475,15 @@ public final class TextEdgeTests {
         badStreet(eight + ";lit 0 0 0", 98, 4);
     }
 
+    static void inTheOrderTold() {
+        says(TERMS, "in the order told");
+        SleepersPay x = Edge.street("street 2;lamp 9 1;person 0 10;lamp 0 2;person 0 20;lit 1 0 0;work 0 0 0;lamp 1 3");
+        due("the second PERSON", x.person(1, 1), 20);
+        due("the second LAMP", x.lamp(1, 1), 2);
+        due("the third LAMP", x.lamp(2, 0), 1);
+        due("LAMPS", x.count(10), 2);
+    }
+
     static void streetBegins() {
         says(TERMS, "It is NIGHT 0, HOUR 0; all are awake");
         SleepersPay x = Edge.street(FULL);
@@ -645,6 +659,16 @@ public final class TextEdgeTests {
         badStreet("street 2;9", 9, 0);
         badStreet("street 2;person 0 0 0", 20, 0);
         badStreet("street 2+1", 8, 0);
+    }
+
+    static void wordsOfAPerson() {
+        says(TERMS, "of a PERSON: person, hour, night, need, worth");
+        SleepersPay x = Edge.street("street 2;person 0 0;person 2 60");
+        Edge.inForce(x, "sleep 1 if person = 0 and need = 0 and worth = 0 or person = 1 and need = 2 and worth = 60");
+        due("the least and the most", x.hour(), 2);
+        Edge.inForce(x, "sleep 1 if hour = 1 and night = 0 or hour = 0 and night = 1");
+        due("the last HOUR of a NIGHT", x.hour(), 2);
+        due("the first HOUR of the next", x.hour(), 2);
     }
 
     static void wordLeft() {

@@ -9,12 +9,12 @@ public final class RoomTests {
     private static final String STREET = "street 10" + ";person 5 30".repeat(5) + ";work 0 0 0".repeat(8)
         + ";lamp 9 60".repeat(5) + ";lit 0 0 9".repeat(8);
     private static final ThreadMXBean BEAN = (ThreadMXBean) ManagementFactory.getThreadMXBean();
+    private static final int[] NUMBERS = numbers();
     private static int wrong = 0;
 
     public static void main(String[] args) {
         SleepersPay x = new SleepersPay();
         rules(x);
-        Telling.street(x, STREET);
         atMost("a new object", 32 * 1024, SleepersPay::new);
         atMost("a new object with six RULES, and telling these", 96 * 1024, () -> rules(new SleepersPay()));
         atMost("512 other calls", 0, () -> play(x));
@@ -44,20 +44,41 @@ public final class RoomTests {
         x.force(0);
     }
 
+    /** As Telling does, but makes nothing itself. */
+    private static void tell(SleepersPay x) {
+        x.end(0);
+        for (int i = 0; i + 5 <= NUMBERS.length; i += 5) {
+            x.feed(NUMBERS[i], NUMBERS[i + 1], NUMBERS[i + 2], NUMBERS[i + 3], NUMBERS[i + 4]);
+        }
+        x.end(STREET.length());
+        if (x.street() != 5) {
+            wrong++;
+        }
+    }
+
+    private static int[] numbers() {
+        int[] numbers = new int[100];
+        for (int i = 0; i < STREET.length(); i++) {
+            numbers[i / 4] |= STREET.charAt(i) << 24 - i % 4 * 8;
+        }
+        return numbers;
+    }
+
     private static void play(SleepersPay x) {
+        tell(x);
         for (int i = 0; i < CALLS; i++) {
             call(x, i);
         }
     }
 
     private static void call(SleepersPay x, int i) {
-        switch (i % 24) {
+        switch (i % 28) {
             case 0 -> x.feed(i, i, i, i, i);
             case 1 -> x.end(0);
             case 2 -> x.street();
             case 3, 4 -> x.hour();
-            case 5 -> x.sleep(4, i % 48 == 5);
-            case 6 -> x.light(4, i % 48 == 6);
+            case 5 -> x.sleep(4, i % 56 == 5);
+            case 6 -> x.light(4, i % 56 == 6);
             case 7 -> x.undo();
             case 8 -> x.owed(0, 0);
             case 9 -> x.ahead(4, 100, 2);
@@ -74,6 +95,10 @@ public final class RoomTests {
             case 20 -> x.lives(10, 60, 50, 1);
             case 21 -> x.image(i % 4);
             case 22 -> x.back(i % 4);
+            case 23 -> x.person(4, i % 6);
+            case 24 -> x.lamp(4, i % 3);
+            case 25 -> x.force(i % 7 - 1);
+            case 26 -> x.seed(i);
             default -> x.count(i % 16);
         }
     }

@@ -506,6 +506,8 @@ public final class TextEdgeTests {
         Edge.goodRule("sleep 1" + " ".repeat(393));
         Edge.goodRule("sleep" + " ".repeat(394) + "1");
         badRule("sleep 1" + " ".repeat(392) + ";", 400, 0);
+        badRule("sleep 1 if 1" + " ".repeat(387) + "<", 400, 0);
+        badRule("sleep 1 if 1" + " ".repeat(387) + ">", 400, 0);
         badRule("", 0, 0);
         badRule(";sleep 1", 0, 0);
         badRule("sleep 1;", 8, 0);

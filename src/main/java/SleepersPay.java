@@ -1144,11 +1144,13 @@ public final class SleepersPay {
             return text.fault;
         }
 
-        private void emit(int step) {
-            if (size >= 0 && size < MOST_STEPS) {
+        /** Always true, so that it can end a row of &&. */
+        private boolean emit(int step) {
+            if (step != Rule.NO_STEP && size >= 0 && size < MOST_STEPS) {
                 steps[size] = step;
                 size++;
             }
+            return true;
         }
 
         private boolean readClause(int clause) {
@@ -1163,65 +1165,47 @@ public final class SleepersPay {
                 return false;
             }
             if (text.word != Text.IF) {
-                emit(Rule.ANSWER);
-                return true;
+                return emit(Rule.ANSWER);
             }
             text.step();
-            if (!readTest(0)) {
-                return false;
-            }
-            emit(Rule.ANSWER_IF);
-            return true;
+            return readTest(0) && emit(Rule.ANSWER_IF);
         }
 
+        /** As 'and' binds closer, the step of an 'or' waits till the PART behind it is read. */
         private boolean readTest(int depth) {
-            if (!readPart(depth)) {
-                return false;
-            }
-            for (int i = 0; i < Text.MOST && text.word == Text.OR; i++) {
-                text.step();
-                if (!readPart(depth)) {
-                    return false;
-                }
-                emit(Rule.EITHER);
-            }
-            return true;
-        }
-
-        private boolean readPart(int depth) {
-            if (!readFact(depth)) {
-                return false;
-            }
-            for (int i = 0; i < Text.MOST && text.word == Text.AND; i++) {
-                text.step();
+            int or = Rule.NO_STEP;
+            int and = Rule.NO_STEP;
+            for (int i = 0; i < Text.MOST; i++) {
                 if (!readFact(depth)) {
                     return false;
                 }
-                emit(Rule.BOTH);
+                emit(and);
+                and = text.word == Text.AND ? Rule.BOTH : Rule.NO_STEP;
+                if (and == Rule.NO_STEP) {
+                    emit(or);
+                    or = text.word == Text.OR ? Rule.EITHER : Rule.NO_STEP;
+                    if (or == Rule.NO_STEP) {
+                        return true;
+                    }
+                }
+                text.step();
             }
-            return true;
+            return text.refuse(Text.TOO_LONG);
         }
 
         private boolean readFact(int depth) {
-            boolean not = text.word == Text.NOT;
-            if (!not && text.sign != '[') {
-                return readComparison();
-            }
-            if (depth >= MOST_DEPTH) {
+            boolean opens = text.word == Text.NOT || text.sign == '[';
+            if (opens && depth >= MOST_DEPTH) {
                 return text.refuse(Text.TOO_DEEP);
             }
-            text.step();
-            if (!not) {
+            if (text.word == Text.NOT) {
+                text.step();
+                return readFact(depth + 1) && emit(Rule.NOT);
+            }
+            if (text.sign == '[') {
+                text.step();
                 return readTest(depth + 1) && text.takeSign(']');
             }
-            if (!readFact(depth + 1)) {
-                return false;
-            }
-            emit(Rule.NOT);
-            return true;
-        }
-
-        private boolean readComparison() {
             if (!readSum()) {
                 return false;
             }
@@ -1234,41 +1218,29 @@ public final class SleepersPay {
             }
             values++;
             text.step();
-            if (!readSum()) {
-                return false;
-            }
-            emit(step);
-            return true;
+            return readSum() && emit(step);
         }
 
+        /** As * / and % bind closer, the step of a + or - waits till the TERM behind it is read. */
         private boolean readSum() {
-            if (!readTerm()) {
-                return false;
-            }
-            for (int i = 0; i < Text.MOST && (text.sign == '+' || text.sign == '-'); i++) {
-                int step = text.sign == '+' ? Rule.ADD : Rule.SUBTRACT;
-                text.step();
-                if (!readTerm()) {
-                    return false;
-                }
-                emit(step);
-            }
-            return true;
-        }
-
-        private boolean readTerm() {
-            if (!readValue()) {
-                return false;
-            }
-            for (int i = 0; i < Text.MOST && factorOf(text.sign) != Rule.NO_STEP; i++) {
-                int step = factorOf(text.sign);
-                text.step();
+            int summand = Rule.NO_STEP;
+            int factor = Rule.NO_STEP;
+            for (int i = 0; i < Text.MOST; i++) {
                 if (!readValue()) {
                     return false;
                 }
-                emit(step);
+                emit(factor);
+                factor = factorOf(text.sign);
+                if (factor == Rule.NO_STEP) {
+                    emit(summand);
+                    summand = summandOf(text.sign);
+                    if (summand == Rule.NO_STEP) {
+                        return true;
+                    }
+                }
+                text.step();
             }
-            return true;
+            return text.refuse(Text.TOO_LONG);
         }
 
         private boolean readValue() {
@@ -1287,6 +1259,14 @@ public final class SleepersPay {
             emit(isNumber ? text.number : -1 - text.word);
             text.step();
             return true;
+        }
+
+        private static int summandOf(int sign) {
+            switch (sign) {
+                case '+': return Rule.ADD;
+                case '-': return Rule.SUBTRACT;
+                default: return Rule.NO_STEP;
+            }
         }
 
         private static int factorOf(int sign) {
